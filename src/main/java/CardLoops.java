@@ -646,11 +646,14 @@ public final class CardLoops {
         void readLump() {
             int letters = 0;
             int digits = 0;
-            while (at < length && (isLetter(tape[at]) || isDigit(tape[at]))) {
-                if (isLetter(tape[at])) {
+            while (at < length) {
+                int sign = tape[at];
+                if (sign >= 'a' && sign <= 'z') {
                     letters++;
-                } else {
+                } else if (sign >= '0' && sign <= '9') {
                     digits++;
+                } else {
+                    break;
                 }
                 at++;
             }
@@ -677,14 +680,6 @@ public final class CardLoops {
 
         static boolean isBlank(int sign) {
             return sign == 32 || sign == 10;
-        }
-
-        static boolean isLetter(int sign) {
-            return sign >= 'a' && sign <= 'z';
-        }
-
-        static boolean isDigit(int sign) {
-            return sign >= '0' && sign <= '9';
         }
     }
 
