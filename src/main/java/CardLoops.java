@@ -632,7 +632,6 @@ public final class CardLoops {
             if (at >= TEXT_BYTES && length > TEXT_BYTES) {
                 tokenStart = TEXT_BYTES;
                 tokenSort = NO_TOKEN;
-                fail(CANNOT_COME);
             } else if (at >= length) {
                 tokenSort = END;
             } else if (tape[at] == ';') {
@@ -708,8 +707,6 @@ public final class CardLoops {
             System.arraycopy(cards, 0, cardsOf, 0, MOST_LOOPS);
             Arrays.fill(begun, 0);
             Arrays.fill(through, 0);
-            Arrays.fill(ends, 0);
-            Arrays.fill(births, 0);
             Arrays.fill(minutes, 0);
             factor = longerBy;
             time = 0;

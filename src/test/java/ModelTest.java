@@ -175,6 +175,9 @@ public final class ModelTest {
     private void calls() {
         tell(works(random.nextInt(6) == 0));
         for (int i = 0; i < 60; i++) {
+            if (random.nextInt(40) == 0) {
+                tell(works(random.nextInt(6) == 0));
+            }
             move();
             look();
             think();

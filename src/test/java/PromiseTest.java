@@ -114,6 +114,13 @@ public final class PromiseTest {
         due("seven there", x.now(9), 7);
         due("end(8)", x.end(8), false);
         due("feed behind them", x.feed(0, 0, 0, 0, 0), 27);
+        x.end(0);
+        Checks.put(x, "works 2;station 1 123");
+        x.end(20);
+        due("what was cut off is not read", x.text(), -21);
+        Checks.put(x, "works 2;station 1 12;x");
+        x.end(21);
+        due("what was cut off is no token", x.text(), 2);
     }
 
     private static void text() {
@@ -321,6 +328,8 @@ public final class PromiseTest {
         due("waits(1, -1)", x.waits(1, -1), -1);
         due("waits(0, 0)", x.waits(0, 0), -1);
         due("waits(2, 0)", x.waits(2, 0), -1);
+        due("waits(6, 0)", x.waits(6, 0), -1);
+        due("waits(MAX, 0)", x.waits(Integer.MAX_VALUE, 0), -1);
         due("waits(-1, 0)", x.waits(-1, 0), -1);
         due("how many", x.station(1, 4), 4);
     }
@@ -400,6 +409,11 @@ public final class PromiseTest {
         x.undo();
         due("pace with cards as they were", x.pace(1), 5);
         due("nothing moves", x.now(3), 0);
+        Checks.tell(x, TURNS);
+        due("pace of another text", x.pace(1), 14);
+        x.cards(0, 1);
+        Checks.tell(x, "works 1;bad");
+        due("pace stays with a fault", x.pace(0), 3);
     }
 
     private static void paceNotSo() {
@@ -469,6 +483,8 @@ public final class PromiseTest {
         CardLoops turns = Checks.works("works 1;station 2 4;station 2 4;run 1 1;run 2 1;");
         due("by the ring", turns.needs(0, 1, 6), 1);
         due("by trying", turns.least(0, 1, 6), 2);
+        CardLoops last = Checks.works("works 1;station 1 20;station 2 18;station 2 60;run 3 17;run 0 15;run 0 7;");
+        due("twenty are tried", last.least(0, 5, 26), 20);
         CardLoops twenty = Checks.works("works 1;station 1 0;" + Checks.times("station 60 0;", 5));
         due("more than 20 are never tried", twenty.least(0, 1, 14), -2);
     }
