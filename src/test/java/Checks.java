@@ -1,22 +1,46 @@
 import java.util.NoSuchElementException;
+import java.util.Set;
+import java.util.TreeSet;
 
 /** What the tests share: telling a text, and counting the answers that are not as due. */
 final class Checks {
     private int wrong = 0;
     private int made = 0;
+    private String sentence = "";
+    private final Set<String> quoted = new TreeSet<>();
+
+    /** Which sentence of the document the answers that follow are due to. */
+    void sentence(String where, String quote) {
+        sentence = "";
+        due("DOC.md, " + where + ", says '" + quote + "'", Doc.says(where, quote), true);
+        sentence = where + " '" + quote + "': ";
+        quoted.add(where);
+    }
+
+    void isQuoted(String where) {
+        due("a test quotes " + where, quoted.contains(where), true);
+    }
 
     void due(String call, long got, long want) {
-        made++;
-        if (got != want) {
-            wrong++;
-            if (wrong <= 50) {
-                System.out.println(call + " answered " + got + ", due is " + want);
-            }
+        if (got == want) {
+            made++;
+        } else {
+            same(call, Long.toString(got), Long.toString(want));
         }
     }
 
     void due(String call, boolean got, boolean want) {
-        due(call, got ? 1 : 0, want ? 1 : 0);
+        same(call, Boolean.toString(got), Boolean.toString(want));
+    }
+
+    void same(String call, String got, String want) {
+        made++;
+        if (!got.equals(want)) {
+            wrong++;
+            if (wrong <= 50) {
+                System.out.println(sentence + call + " answered " + got + ", due is " + want);
+            }
+        }
     }
 
     void isThrown(CardLoops x, int station, int what) {
@@ -50,7 +74,7 @@ final class Checks {
         x.end(before + length);
     }
 
-    private static int number(String text, int at) {
+    static int number(String text, int at) {
         int number = 0;
         for (int i = at; i < at + 4; i++) {
             number = number << 8 | (i < text.length() ? text.charAt(i) & 255 : 0);

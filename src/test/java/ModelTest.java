@@ -1,16 +1,25 @@
 import java.util.NoSuchElementException;
 import java.util.Random;
 
-/** CardLoops against the document told once more (NaiveCardLoops): the same calls, chance ones from fixed seeds. */
+/**
+ * CardLoops against the document told once more (NaiveCardLoops): the same calls, chance ones from fixed seeds.
+ * No object gets more than the 512 calls behind which the document leaves its answers free.
+ */
 public final class ModelTest {
     private static final Checks CHECKS = new Checks();
     private static final String[] PIECES = {"works", "station", "loop", "run", ";", ";", ";", " ", " ", "\n", "1",
         "0", "2", "3", "20", "21", "60", "61", "05", "100", "x", "Z", "-", "works 3;", "station 4 2;", "run 1 2;",
         "loop 0 0 1;", "loop 0 1 2;"};
 
+    private static final int MOST_CALLS = 512;
+    /** The most that tell() and look() can spend. */
+    private static final int CALLS_OF_A_TEXT = 40;
+    private static final int CALLS_OF_A_LOOK = 340;
+
     private final Random random;
-    private final CardLoops x = new CardLoops();
-    private final NaiveCardLoops y = new NaiveCardLoops();
+    private CardLoops x = new CardLoops();
+    private NaiveCardLoops y = new NaiveCardLoops();
+    private int calls = 0;
     private final String name;
 
     private ModelTest(long seed) {
@@ -24,19 +33,31 @@ public final class ModelTest {
         for (long seed = first; seed < first + runs && CHECKS.isRight(); seed++) {
             ModelTest test = new ModelTest(seed);
             test.texts();
-            test.calls();
+            test.manyMoves();
+            test.fewMoves();
         }
         CHECKS.close();
     }
 
+    /** One call of each of the two. */
     private void due(String call, long got, long want) {
+        calls++;
         CHECKS.due(name + call, got, want);
+        if (calls > MOST_CALLS) {
+            CHECKS.due(name + "calls of one object", calls, MOST_CALLS);
+        }
+    }
+
+    private void makeNew() {
+        x = new CardLoops();
+        y = new NaiveCardLoops();
+        calls = 0;
     }
 
     private void texts() {
         for (int i = 0; i < 60; i++) {
             String text = works(random.nextInt(3) == 0);
-            tell(random.nextInt(8) == 0 ? text : spoil(text));
+            tellAndGlance(random.nextInt(8) == 0 ? text : spoil(text));
         }
         for (int i = 0; i < 30; i++) {
             StringBuilder b = new StringBuilder();
@@ -44,7 +65,18 @@ public final class ModelTest {
             for (int k = 0; k < pieces; k++) {
                 b.append(PIECES[random.nextInt(PIECES.length)]);
             }
-            tell(b.toString());
+            tellAndGlance(b.toString());
+        }
+    }
+
+    private void tellAndGlance(String text) {
+        if (calls > MOST_CALLS - CALLS_OF_A_TEXT - 12) {
+            look();
+            makeNew();
+        }
+        tell(text);
+        for (int i = 0; i < 12; i++) {
+            glance();
         }
     }
 
@@ -73,24 +105,18 @@ public final class ModelTest {
     }
 
     private void tell(String text) {
-        Checks.put(x, text);
-        y.end(0);
         for (int i = 0; i < text.length(); i += 20) {
-            y.feed(number(text, i), number(text, i + 4), number(text, i + 8), number(text, i + 12), number(text, i + 16));
+            int a = Checks.number(text, i);
+            int b = Checks.number(text, i + 4);
+            int c = Checks.number(text, i + 8);
+            int d = Checks.number(text, i + 12);
+            int e = Checks.number(text, i + 16);
+            due("feed", x.feed(a, b, c, d, e), y.feed(a, b, c, d, e));
         }
-        y.end(text.length());
+        due("end", x.end(text.length()) ? 1 : 0, y.end(text.length()) ? 1 : 0);
         due("bytes", x.now(9), y.now(9));
         due("text '" + text + "'", x.text(), y.text());
         due("fault '" + text + "'", x.fault(), y.fault());
-        look();
-    }
-
-    private static int number(String text, int at) {
-        int number = 0;
-        for (int i = at; i < at + 4; i++) {
-            number = number << 8 | (i < text.length() ? text.charAt(i) : 0);
-        }
-        return number;
     }
 
     private String works(boolean wide) {
@@ -116,12 +142,17 @@ public final class ModelTest {
         return b.toString();
     }
 
-    /** Everything that can be asked without moving, but for what takes long. */
+    /** Everything that can be asked without moving, but for what takes long, as far as calls are left. */
     private void look() {
+        if (calls > MOST_CALLS - CALLS_OF_A_LOOK) {
+            return;
+        }
         for (int what = -1; what <= 10; what++) {
             due("now(" + what + ")", x.now(what), y.now(what));
         }
-        for (int s = -1; s <= x.now(0); s++) {
+        int stations = y.now(0);
+        int loops = y.now(1);
+        for (int s = -1; s <= stations; s++) {
             for (int what = -1; what <= 10; what++) {
                 due("station(" + s + ", " + what + ")", ofStation(s, what), ofNaiveStation(s, what));
             }
@@ -129,13 +160,37 @@ public final class ModelTest {
                 due("waits(" + s + ", " + i + ")", x.waits(s, i), y.waits(s, i));
             }
         }
-        for (int l = -1; l <= x.now(1); l++) {
+        for (int l = -1; l <= loops; l++) {
             for (int what = -1; what <= 4; what++) {
                 due("loop(" + l + ", " + what + ")", x.loop(l, what), y.loop(l, what));
             }
         }
         for (int what = -1; what <= 3; what++) {
             due("bound(" + what + ")", x.bound(what), y.bound(what));
+        }
+    }
+
+    /** One of the calls of look(), by chance. */
+    private void glance() {
+        int what = random.nextInt(12) - 1;
+        int s = random.nextInt(8) - 1;
+        int i = random.nextInt(random.nextBoolean() ? 22 : 4) - 1;
+        switch (random.nextInt(6)) {
+            case 0:
+                due("now(" + what + ")", x.now(what), y.now(what));
+                break;
+            case 1:
+                due("waits(" + s + ", " + i + ")", x.waits(s, i), y.waits(s, i));
+                break;
+            case 2:
+                due("loop(" + s + ", " + i + ")", x.loop(s, i), y.loop(s, i));
+                break;
+            case 3:
+                due("bound(" + i + ")", x.bound(i), y.bound(i));
+                break;
+            default:
+                due("station(" + s + ", " + what + ")", ofStation(s, what), ofNaiveStation(s, what));
+                break;
         }
     }
 
@@ -172,15 +227,33 @@ public final class ModelTest {
         }
     }
 
-    private void calls() {
+    /** Many moves with some glances, up to the last call. */
+    private void manyMoves() {
+        makeNew();
         tell(works(random.nextInt(6) == 0));
-        for (int i = 0; i < 60; i++) {
+        while (calls <= MOST_CALLS - CALLS_OF_A_TEXT - 8) {
             if (random.nextInt(40) == 0) {
                 tell(works(random.nextInt(6) == 0));
             }
             move();
-            look();
             think();
+            for (int i = 0; i < 5; i++) {
+                glance();
+            }
+        }
+    }
+
+    /** Few moves, then all is looked at. */
+    private void fewMoves() {
+        for (int turn = 0; turn < 8; turn++) {
+            makeNew();
+            tell(works(random.nextInt(6) == 0));
+            int moves = 1 + random.nextInt(60);
+            for (int i = 0; i < moves; i++) {
+                move();
+                think();
+            }
+            look();
         }
     }
 

@@ -17,7 +17,7 @@ public final class RoomTest {
         CHECKS.due("bytes of an object " + (made - before), made - before < BYTES_OF_AN_OBJECT, true);
         Checks.tell(x, wide());
         long told = meter.getThreadAllocatedBytes(id);
-        use(x, 40);
+        use(x, 30);
         long used = meter.getThreadAllocatedBytes(id);
         CHECKS.due("bytes of its calls " + (used - told), used - told < BYTES_OF_ITS_CALLS, true);
         CHECKS.close();
