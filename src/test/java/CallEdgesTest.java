@@ -251,6 +251,7 @@ public final class CallEdgesTest {
         sentence(4, "nothing can be undone");
         CardLoops x = goingOn();
         due("could be undone", x.now(8), 3);
+        due("PACE ahead of it", x.pace(1), 16);
         due("text", x.text(), 3);
         due("can be undone", x.now(8), 0);
         due("undo", x.undo(), -1);
@@ -697,6 +698,7 @@ public final class CallEdgesTest {
     private static void longestLeast() {
         sentence(17, "The least f by which LONGER is most.");
         due("all are like", Checks.works(TWO).longest(), 1);
+        due("all are 2 by 15", Checks.works("works 2;station 7 0;station 7 0;station 1 0;").longest(), 1);
         due("from 2 on all are like", Checks.works("works 3;station 3 0;station 1 4;run 0 1;run 3 1;").longest(), 2);
         due("each is more", Checks.works("works 1;station 1 10;run 1 1;run 2 1;").longest(), 5);
         due("one KIND", Checks.works("works 2;station 3 9;run 1 4;run 1 4;").longest(), 1);
@@ -857,6 +859,7 @@ public final class CallEdgesTest {
         refused("LOOP MIN", x -> x.cards(MIN, 1), -1);
         refused("k 0", x -> x.cards(1, 0), -1);
         refused("k 21", x -> x.cards(1, 21), -1);
+        refused("k 0, all are FREE", () -> Checks.works(PAIR), x -> x.cards(1, 0), -1);
         refused("k -1", x -> x.cards(1, -1), -1);
         refused("k MAX", x -> x.cards(1, MAX), -1);
         refused("k MIN", x -> x.cards(1, MIN), -1);
@@ -909,6 +912,12 @@ public final class CallEdgesTest {
             CHECKS.same("as it was", Twins.picture(x), pictures[more]);
         }
         due("no more", x.undo(), -1);
+        CardLoops six = Checks.works("works 9;" + Checks.times("station 7 2;", 6) + "loop 2 5 2;run 1 2;run 2 1;");
+        six.pass(99);
+        String picture = Twins.picture(six);
+        six.pass(500);
+        due("undo of six STATIONS", six.undo(), 1);
+        CHECKS.same("as it was", Twins.picture(six), picture);
     }
 
     private static void undoEight() {

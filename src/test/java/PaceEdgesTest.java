@@ -67,6 +67,12 @@ public final class PaceEdgesTest {
         }
         due("TIME goes on where it was", x.now(3), 30);
         due("PARTS that are OUT", x.now(4), 7);
+        Checks.tell(x, "works 2;station 3 0;station 5 0;");
+        paceIs(x, 1, 5);
+        Checks.tell(x, "works 1;station 3 0;station 5 0;?");
+        paceIs(x, 1, 5);
+        due("no works", x.text(), 0);
+        paceIs(x, -1, -1);
     }
 
     private static void withCardsAsTheyAreNow() {
@@ -93,7 +99,13 @@ public final class PaceEdgesTest {
         sentence("all that goes on is looked at (for each STATION how long until it is through");
         paceIs("works 2;station 7 0;station 7 0;station 1 0;", 2, 15);
         paceIs("works 4;station 2 8;station 3 7;run 0 2;run 1 1;", 3, 23);
+        // Up to 60 minutes of SETUP and 60 of TIME may be left.
+        paceIs("works 5;station 29 56;station 7 8;run 1 1;run 2 3;", 1, 57);
+        paceIs("works 6;station 20 57;station 2 7;run 1 3;run 2 2;", 5, 214);
         sentence("KINDS that wait; cards FREE;");
+        // Up to 19 may wait.
+        paceIs("works 19;station 1 8;station 4 0;station 7 1;run 1 2;run 3 10;", 6, 43);
+        paceIs("works 20;station 4 9;station 9 0;station 7 6;run 2 3;run 1 1;", 1, 10);
         paceIs("works 5;station 1 9;station 7 3;station 7 4;run 2 4;run 3 1;", 5, 43);
         paceIs("works 5;station 1 6;station 7 8;station 8 7;run 0 2;run 0 4;run 3 2;", 4, 39);
         sentence("the place in RUNS; no TIMES)");
@@ -110,6 +122,9 @@ public final class PaceEdgesTest {
         paceIs("works 2;station 1 0;station 1 0;station 1 0;", 2, 3);
         paceIs("works 1;station 1 60;run 1 1;", 1, 1);
         paceIs("works 1;station 1 60;run 1 1;run 2 1;", 1, 61);
+        // An earlier one may be long ago, with many others between.
+        paceIs("works 20;station 6 3;station 8 58;run 2 2;run 3 2;", 1, 37);
+        paceIs("works 12;station 33 24;station 35 0;run 3 12;run 1 15;", 1, 35);
     }
 
     private static void lowestTerms() {
@@ -131,6 +146,10 @@ public final class PaceEdgesTest {
         CardLoops outside = Checks.works("works 14;station 44 14;station 44 37;run 1 12;run 2 12;");
         due("longer by 5, behind the 1501st: parts", outside.longer(5, 0), -1);
         due("longer by 5, behind the 1501st: minutes", outside.longer(5, 1), -1);
+        CardLoops some = Checks.works("works 12;station 4 7;station 4 8;run 3 2;run 2 18;");
+        due("by 1 it is so: parts", some.longer(1, 0), 5);
+        due("by 5 it is not, whatever was found before: parts", some.longer(5, 0), -1);
+        due("by 5 it is not, whatever was found before: minutes", some.longer(5, 1), -1);
     }
 
     private static void ringsOfStations() {

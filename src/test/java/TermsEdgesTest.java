@@ -107,6 +107,14 @@ public final class TermsEdgesTest {
         fails("WORKS 1;", 0, 1);
         fails("work 1;", 0, 1);
         fails("orks 1;", 0, 1);
+        String[] words = {"works", "station", "loop", "run"};
+        for (String word : words) {
+            String ahead = word.equals("works") ? "" : ONE;
+            for (int i = 0; i < word.length(); i++) {
+                fails(ahead + word.substring(0, i) + "x" + word.substring(i + 1) + " 1 1 1;", ahead.length(), 1);
+                fails(ahead + word.substring(0, i) + word.substring(i + 1) + " 1 1 1;", ahead.length(), 1);
+            }
+        }
         fails(ONE + "Run 0 1;", 20, 1);
         fails(ONE + "runs 0 1;", 20, 1);
         fails(ONE + "ru 0 1;", 20, 1);
