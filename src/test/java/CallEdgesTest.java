@@ -59,6 +59,7 @@ public final class CallEdgesTest {
         undoEight();
         undoNone();
         noWorks();
+        the512thCall();
         for (int promise = 1; promise <= 22; promise++) {
             CHECKS.isQuoted("Promise " + promise);
         }
@@ -407,7 +408,8 @@ public final class CallEdgesTest {
     }
 
     private static void stationEach() {
-        sentence(7, "3 the KIND of its PART (idle: NONE), 4 how many wait there, 5 at which TIME it is through (idle: NONE)");
+        sentence(7, "Of a STATION 0 TIME, 1 SETUP, 2 0 to 3 as told, 3 the KIND of its PART (idle: NONE), "
+            + "4 how many wait there, 5 at which TIME it is through (idle: NONE)");
         CardLoops x = Checks.works("works 4;station 2 3;station 6 1;run 1 1;run 2 1;");
         stationIs(x, 0, 2, 3, 3, 1, 0, 2);
         stationIs(x, 1, 6, 1, 0, -1, 0, -1);
@@ -1009,5 +1011,17 @@ public final class CallEdgesTest {
             due("a works can be told", Checks.tell(x, TWO), 3);
             due("and goes on", x.step(), 3);
         }
+    }
+
+    private static void the512thCall() {
+        CHECKS.sentence("What it is", "An object is used for at most 512 calls after it has been made");
+        CardLoops x = empty();
+        x.feed(0x776f726b, 0x7320323b, 0x73746174, 0x696f6e20, 0x3320303b);
+        due("the second call", x.text(), 2);
+        for (int call = 3; call <= 510; call++) {
+            due("call " + call, x.pass(1), call % 3 == 2 ? 1 : 0);
+        }
+        due("call 511", x.undo(), 7);
+        due("call 512", x.now(3), 507);
     }
 }

@@ -22,13 +22,15 @@ final class Doc {
         return text.replaceAll("\\s+", " ");
     }
 
-    /** Where: "Terms" (their first part), "==== 2.", "==== 3.", or "Promise 1" to "Promise 22". */
+    /** Where: "What it is", "Terms" (their first part), "==== 2.", "==== 3.", or "Promise 1" to "Promise 22". */
     static boolean says(String where, String quote) {
         return part(where).contains(plain(quote));
     }
 
     private static String part(String where) {
         switch (where) {
+            case "What it is":
+                return between("## What it is", "## The public face");
             case "Terms":
                 return between("## Terms ", "==== 2. PARTS");
             case "==== 2.":

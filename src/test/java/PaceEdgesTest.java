@@ -96,7 +96,8 @@ public final class PaceEdgesTest {
     }
 
     private static void allThatGoesOn() {
-        sentence("all that goes on is looked at (for each STATION how long until it is through");
+        sentence("behind each ROUND by which a PART is OUT all that goes on is looked at (for each STATION how long "
+            + "until it is through, and until it is set up, the KIND there and that before;");
         paceIs("works 2;station 7 0;station 7 0;station 1 0;", 2, 15);
         paceIs("works 4;station 2 8;station 3 7;run 0 2;run 1 1;", 3, 23);
         // Up to 60 minutes of SETUP and 60 of TIME may be left.
