@@ -551,6 +551,9 @@ public final class CallEdgesTest {
         due("the document names no TIME above which it is NONE", late.when(1, 0), 100002);
         due("the 200th", late.when(200, 0), 99995 + 1400);
         due("its LEAD", late.when(200, 1), 7);
+        CardLoops turns = Checks.works("works 1;station 1 10;run 1 1;run 2 1;");
+        turns.longer(5, 0);
+        due("by COUNTS as they are, whatever was asked before", turns.when(3, 0), 23);
         CardLoops slow = Checks.works("works 1;" + Checks.times("station 60 60;", 6) + "run 1 1;run 2 1;");
         due("the slowest", slow.when(200, 0), 360 + 199 * 720);
         due("its LEAD", slow.when(200, 1), 720);
@@ -653,6 +656,12 @@ public final class CallEdgesTest {
         due("99 by 1", x.least(0, 99, 1), -2);
         due("LOOP 1 can't help", x.least(1, 1, 1), -2);
         due("LOOP 1", x.least(1, 1, 2), 1);
+        CardLoops six = Checks.works("works 1;" + Checks.times("station 1 0;", 6));
+        due("six STATIONS", six.least(0, 1, 1), 6);
+        due("six STATIONS, half of it", six.least(0, 1, 2), 3);
+        Checks.tell(six, "works 1;station 1 0;station 60 0;");
+        Checks.tell(six, "works 1;station 1 0;");
+        due("what an earlier text told is gone", six.least(0, 1, 1), 1);
         refused("least moves nothing", y -> y.least(1, 1, 99), 1);
         refused("-2 moves nothing", y -> y.least(0, 99, 1), -2);
     }
