@@ -335,6 +335,7 @@ public final class CallEdgesTest {
         sentence(6, "0 STATIONS, 1 LOOPS (LOOP 0, too), 2 runs, 3 TIME, 4 PARTS that are OUT, 5 PARTS on their way");
         nowIs(empty(), 0, 0, 0, 0, 0, 0);
         nowIs(Checks.works("works 1;station 1 0;"), 1, 1, 0, 0, 0, 1);
+        nowIs(Checks.works("works 1;station 1 0;run 1 20;run 1 20;"), 1, 1, 2, 0, 0, 1);
         String most = "works 20;" + Checks.times("station 1 0;", 6) + Checks.times("loop 0 0 1;", 4) + Checks.times("run 0 1;", 6);
         CardLoops x = Checks.works(most);
         nowIs(x, 6, 5, 6, 0, 0, 1);
@@ -660,7 +661,7 @@ public final class CallEdgesTest {
         due("six STATIONS", six.least(0, 1, 1), 6);
         due("six STATIONS, half of it", six.least(0, 1, 2), 3);
         Checks.tell(six, "works 1;station 1 0;station 60 0;");
-        Checks.tell(six, "works 1;station 1 0;");
+        Checks.tell(six, "works 1;station 1 0;loop 0 0 1;run 0 1;run 0 1;");
         due("what an earlier text told is gone", six.least(0, 1, 1), 1);
         refused("least moves nothing", y -> y.least(1, 1, 99), 1);
         refused("-2 moves nothing", y -> y.least(0, 99, 1), -2);
@@ -712,6 +713,7 @@ public final class CallEdgesTest {
         due("all are 2 by 15", Checks.works("works 2;station 7 0;station 7 0;station 1 0;").longest(), 1);
         due("from 2 on all are like", Checks.works("works 3;station 3 0;station 1 4;run 0 1;run 3 1;").longest(), 2);
         due("each is more", Checks.works("works 1;station 1 10;run 1 1;run 2 1;").longest(), 5);
+        due("each is more, by 5 it is 15 by 38", Checks.works("works 3;station 2 4;run 1 2;run 2 1;").longest(), 5);
         due("one KIND", Checks.works("works 2;station 3 9;run 1 4;run 1 4;").longest(), 1);
         CardLoops some = Checks.works("works 12;station 4 7;station 4 8;run 3 2;run 2 18;");
         due("by 5 it is not so", some.longer(5, 0), -1);
