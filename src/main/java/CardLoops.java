@@ -34,6 +34,8 @@ public final class CardLoops {
     private static final int KEPT_ACTS = 8;
     /** Far above the rounds that any call can need: it only makes the end of each loop plain. */
     private static final int MOST_ROUNDS = 1000000;
+    /** Behind every TIME that a line can come to. */
+    private static final int NEVER = 2147483647;
 
     private static final int STARVED = 0;
     private static final int HELD = 1;
@@ -821,7 +823,7 @@ public final class CardLoops {
 
         /** In a works somebody is always busy: the foremost PART is never held back. */
         int nextThrough() {
-            int soonest = Integer.MAX_VALUE;
+            int soonest = NEVER;
             for (int s = 0; s < plan.stations; s++) {
                 if (!isIdle(s) && ends[s] < soonest) {
                     soonest = ends[s];

@@ -7,10 +7,13 @@ import java.nio.file.Path;
 import java.util.Arrays;
 import java.util.Set;
 import java.util.TreeSet;
+import java.util.regex.Matcher;
+import java.util.regex.Pattern;
 
 /** The face is the document's and no more; the source keeps to what LANGUAGE.md leaves, as far as a scan can tell. */
 public final class FaceTest {
     private static final Checks CHECKS = new Checks();
+    private static final Path SOURCE = Path.of("src/main/java/CardLoops.java");
     private static final String[] FACE = {"feed(int,int,int,int,int)int", "end(int)boolean", "text()int",
         "fault()int", "now(int)int", "station(int,int)int", "waits(int,int)int", "loop(int,int)int", "next(int)int",
         "when(int,int)int", "pace(int)int", "bound(int)int", "needs(int,int,int)int", "least(int,int,int)int",
@@ -19,10 +22,15 @@ public final class FaceTest {
     private static final String[] BANNED = {"->", "::", "Exact(", "finally", "synchronized", "assert ", "catch",
         "@Override", "package ", "static {", "instanceof", "System.out", "new IllegalStateException", "float", "double"};
 
+    /** What LANGUAGE.md's rule 4 lists and the class uses: a name of the library, a dot, a name of it. */
+    private static final Set<String> LIBRARY = Set.of("Arrays.fill", "Math.max", "Math.min", "System.arraycopy");
+
     public static void main(String[] args) throws IOException {
         members();
         nested();
         source();
+        library();
+        documentsFace();
         CHECKS.close();
     }
 
@@ -80,8 +88,32 @@ public final class FaceTest {
         }
     }
 
+    /** LANGUAGE.md, rule 4: "The library: only what stands here." */
+    private static void library() throws IOException {
+        Matcher m = Pattern.compile("\\b[A-Z][A-Za-z]*\\.[A-Za-z_]+").matcher(Files.readString(SOURCE));
+        while (m.find()) {
+            CHECKS.due(m.group() + " is of the library's list", LIBRARY.contains(m.group()), true);
+        }
+    }
+
+    /** "The public face": each of the document's lines stands in the source, to the letter. */
+    private static void documentsFace() throws IOException {
+        String source = Files.readString(SOURCE);
+        int found = 0;
+        for (String line : Files.readAllLines(Path.of("../shared/DOC.md"))) {
+            String due = line.trim();
+            if (due.startsWith("public ")) {
+                found++;
+                String written = due.endsWith(");") || due.endsWith("Exception;")
+                    ? due.substring(0, due.length() - 1) + " {" : due;
+                CHECKS.due("the source has '" + written + "'", source.contains(written), true);
+            }
+        }
+        CHECKS.due("lines of the document's face", found, FACE.length + 3);
+    }
+
     private static void source() throws IOException {
-        String text = Files.readString(Path.of("src/main/java/CardLoops.java"));
+        String text = Files.readString(SOURCE);
         for (int i = 0; i < text.length(); i++) {
             if (text.charAt(i) > 126) {
                 CHECKS.due("a sign above 126 at " + i, 1, 0);
